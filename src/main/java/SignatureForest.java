@@ -335,7 +335,7 @@ public final class SignatureForest {
         int next = 0;
         draft.size = 0;
         for (int place = 0; place < old.letters.length; place++) {
-            if (place < next || place >= cutStart && place < cutEnd) {
+            if (place < next || (place >= cutStart && place < cutEnd)) {
                 continue;
             }
             boolean fits;
