@@ -75,7 +75,6 @@ public final class SignatureForest {
         eraser = new Eraser();
         otherEraser = new Eraser();
         made = new Signature[MOST_SIGNATURES];
-        madeCount = 0;
     }
 
     public int type(int code) {
@@ -97,11 +96,10 @@ public final class SignatureForest {
         if (fault != NONE) {
             return -1 - fault;
         }
-        if (madeCount >= MOST_SIGNATURES) {
-            return REFUSED;
+        int number = keep(line, NONE);
+        if (number != REFUSED) {
+            line.size = 0;
         }
-        int number = keep(new Signature(line, reader, NONE));
-        line.size = 0;
         return number;
     }
 
@@ -168,22 +166,18 @@ public final class SignatureForest {
     public int fill(int signature, int k, int field) {
         Signature old = find(signature);
         Signature filling = find(field);
-        if (old == null || filling == null || madeCount >= MOST_SIGNATURES) {
+        if (old == null || filling == null) {
             return REFUSED;
         }
-        if (!old.hasParameter(k) || filling.sort != FIELD_KIND) {
+        if (!old.hasParameter(k) || filling.sort != FIELD_KIND || !writeFilled(old, k, filling)) {
             return REFUSED;
         }
-        if (old.throwsParameter(k) && filling.roleAt(0) == ARRAY) {
-            return REFUSED;
-        }
-        if (old.readsOtherwiseWithout(k) || !writeFilled(old, k, filling)) {
-            return REFUSED;
-        }
+        // An ARRAY behind ^ is a fault, and so is a name with L or T taken for the beginning of a
+        // bound, since the : behind it ends no bound: the reader finds what must be refused.
         if (reader.faultOf(draft, old.sort) != NONE) {
             return REFUSED;
         }
-        return keep(new Signature(draft, reader, old.scopeNumber));
+        return keep(draft, old.scopeNumber);
     }
 
     public int parameters(int signature) {
@@ -231,11 +225,12 @@ public final class SignatureForest {
         return number >= 0 && number < madeCount ? made[number] : null;
     }
 
-    private int keep(Signature signature) {
+    /** Makes a signature of the text that the reader has just read without a fault. */
+    private int keep(Row text, int scopeNumber) {
         if (madeCount >= MOST_SIGNATURES) {
             return REFUSED;
         }
-        made[madeCount] = signature;
+        made[madeCount] = new Signature(text, reader, scopeNumber);
         madeCount++;
         return madeCount - 1;
     }
@@ -393,7 +388,6 @@ public final class SignatureForest {
 
         Row(int limit) {
             letters = new char[limit];
-            size = 0;
         }
 
         boolean add(char letter) {
@@ -487,11 +481,6 @@ public final class SignatureForest {
             roles = new int[MOST_WRITTEN];
             nameStarts = new int[MOST_WRITTEN];
             nameEnds = new int[MOST_WRITTEN];
-            nameCount = 0;
-            sort = CLASS_KIND;
-            section = IN_BODY;
-            depth = 0;
-            last = NOTHING;
         }
 
         /** The place of the fault, or NONE. */
@@ -724,7 +713,6 @@ public final class SignatureForest {
         private final int bodyStart;
         private int scopeNumber;
 
-        /** Takes over what the reader has just read without a fault. */
         Signature(Row text, Reader reader, int scope) {
             sort = reader.sort;
             letters = new char[text.size];
@@ -783,7 +771,8 @@ public final class SignatureForest {
             int sum = 0;
             for (int place = nameStart(k); place < parameterEnd(k); place++) {
                 int role = roleAt(place);
-                if (role == NEXT_COLON || role == FIRST_COLON && beginsReference(roleAt(place + 1))) {
+                boolean firstIsThere = role == FIRST_COLON && beginsReference(roleAt(place + 1));
+                if (role == NEXT_COLON || firstIsThere) {
                     sum++;
                 }
             }
@@ -828,7 +817,7 @@ public final class SignatureForest {
             return roleAt(place) == VARIABLE_OPEN ? parameterNamed(this, place + 1) : NONE;
         }
 
-        /** The own parameter whose name begins at the place, as itself or in a VARIABLE, or NONE. */
+        /** The own parameter whose name begins at the place, also in a VARIABLE, or NONE. */
         int ownNameAt(int place) {
             int role = roleAt(place);
             boolean isName = role == PARAMETER_NAME || role == VARIABLE_NAME;
@@ -849,24 +838,6 @@ public final class SignatureForest {
                 }
             }
             return roles.length;
-        }
-
-        boolean throwsParameter(int k) {
-            for (int place = 0; place < roles.length; place++) {
-                if (roleAt(place) == THROWS_SIGN && declarerAt(place + 1) == k) {
-                    return true;
-                }
-            }
-            return false;
-        }
-
-        /** True if the parameter behind k would be taken for a bound of the one before k. */
-        boolean readsOtherwiseWithout(int k) {
-            if (!hasParameter(k - 1) || !hasParameter(k + 1) || boundCount(k - 1) > 0) {
-                return false;
-            }
-            char initial = letterAt(nameStart(k + 1));
-            return initial == 'L' || initial == 'T';
         }
 
         int classCount() {
@@ -915,10 +886,7 @@ public final class SignatureForest {
         private boolean thrownPassed;
 
         Shower() {
-            waiting = new int[MOST_WRITTEN + 1];
-            depth = 0;
-            classPassed = false;
-            thrownPassed = false;
+            waiting = new int[MOST_WRITTEN];
         }
 
         void show(Signature signature, Seeker out) {

@@ -10,6 +10,7 @@ public final class FillTest {
         refusesWhatWouldReadOtherwise();
         refusesWrongNumbers();
         refusesLongOnes();
+        refusesLongOnesThatCouldBeCut();
         refusesTheTwentyFifth();
         CHECK.end();
     }
@@ -122,8 +123,18 @@ public final class FillTest {
         CHECK.hasText(forest, 3, Check.SHOWN, "(" + ("a".repeat(36) + ",").repeat(3) + "int,int,int)void");
         CHECK.refused("fill to 121", forest.fill(2, 0, 1));
         CHECK.same("count(0) behind it", forest.count(0), 4);
-        SignatureForest other = Check.forest("1 <T:>(TT;TT;TT;TT;)V", "2 " + longest);
+        SignatureForest other = Check.forest("1 <T:>(TT;TT;TT;TT;)V", "2 " + longest,
+                "1 <T:>(TT;TT;IIII)TT;", "1 <T:>(TT;TT;IIIII)TT;");
         CHECK.refused("fill to 155", other.fill(0, 0, 1));
+        CHECK.same("fill to 120 at the end", other.fill(2, 0, 1), 4);
+        CHECK.refused("fill to 121 at the end", other.fill(3, 0, 1));
+    }
+
+    /** Its first 120 characters are a signature by themselves. */
+    private static void refusesLongOnesThatCouldBeCut() {
+        SignatureForest forest = Check.forest("0 <T:>La<TT;>;La<TT;>;La<TT;>;LB;", "2 L" + "a".repeat(33) + ";");
+        CHECK.refused("fill to 123", forest.fill(0, 0, 1));
+        CHECK.same("count(0) behind it", forest.count(0), 2);
     }
 
     private static void refusesTheTwentyFifth() {

@@ -10,6 +10,7 @@ public final class ReadTest {
         faultsOfParameters();
         otherKindsAreRefused();
         theLineStaysBehindAFault();
+        aFaultLeavesNothingBehind();
         twentyFourAreTheMost();
         kindAnswers();
         CHECK.end();
@@ -86,7 +87,8 @@ public final class ReadTest {
         String[] marked = {"<!>", "<!:>", "<A!>", "<A!", "<A!;", "<A!/", "<A![", "<A:!", "<A:!;", "<A:!<", "<A:!/",
             "<A:!.", "<A::!>", "<A::!:", "<A::!B:>", "<A::!I", "<A:[!X:>", "<A:[B:!>", "<A:LB!:>", "<A:TB!:>", "<A:T!:>",
             "<A:L!>", "<A:A!:>", "<A:B:A!:>", "<A:AA:A!:>", "<A:LB;A!:>", "<A:[IA!:>", "<AB:ABC:A:AB!:",
-            "<A:LB;:!>", "<A:LB;!;", "<A:A!", "<A:AA!", "<A:A!>", "<A:B:B!:>", "<T:LA;T!:>", "<A:TB;!["};
+            "<A:LB;:!>", "<A:LB;!;", "<A:A!", "<A:AA!", "<A:A!>", "<A:B:B!:>", "<T:LA;T!:>", "<A:TB;![", "<A:LB;!",
+            "<A:[I!"};
         for (String text : marked) {
             fault(0, text);
             fault(1, text);
@@ -111,6 +113,17 @@ public final class ReadTest {
         CHECK.same("type behind a fault", forest.type(';'), 3);
         CHECK.same("read of La;", forest.read(2), 0);
         CHECK.same("read of the empty line", forest.read(2), -1);
+    }
+
+    private static void aFaultLeavesNothingBehind() {
+        SignatureForest forest = new SignatureForest();
+        String[] wrong = {"<A:LB;", "La<Lb<*>;", "()VV", "(I", "<A:B"};
+        for (int i = 0; i < wrong.length; i++) {
+            String text = wrong[i];
+            CHECK.same("a fault in " + text, Check.read(forest, i < 2 ? 0 : 1, text) < 0 ? 1 : 0, 1);
+            CHECK.same("LA;LB; behind " + text, Check.read(forest, 0, "LA;LB;"), i);
+            CHECK.same("parameters behind " + text, forest.parameters(i), 0);
+        }
     }
 
     private static void twentyFourAreTheMost() {
