@@ -7,10 +7,16 @@ final class Check {
     private static final int MOST_TOLD = 20;
 
     private final String name;
+    private String sentence = "";
     private int wrong;
 
     Check(String name) {
         this.name = name;
+    }
+
+    /** The words of the document that the next answers are held against. */
+    void sentence(String words) {
+        sentence = " [" + words + "]";
     }
 
     void same(String call, long got, long want) {
@@ -32,7 +38,7 @@ final class Check {
     private void tell(String fault) {
         wrong++;
         if (wrong <= MOST_TOLD) {
-            System.out.println(name + ": " + fault);
+            System.out.println(name + ": " + fault + sentence);
         }
     }
 
@@ -83,5 +89,46 @@ final class Check {
         String call = "text(" + signature + ", " + what + ", ..)";
         same(call, text(forest, signature, what), want);
         same("length(" + signature + ", " + what + ")", forest.length(signature, what), want.length());
+    }
+
+    /** The text alone in the line of a new forest is read as the kind. */
+    void right(int kind, String text) {
+        SignatureForest forest = new SignatureForest();
+        same("read(" + kind + ") of " + text, read(forest, kind, text), 0);
+        same("count(1) behind " + text, forest.count(1), 0);
+        hasText(forest, 0, WRITTEN, text);
+    }
+
+    /** The text has its fault as the kind at the place, and stays in the line. */
+    void faultAt(int place, int kind, String text) {
+        SignatureForest forest = new SignatureForest();
+        same("read(" + kind + ") of " + text, read(forest, kind, text), -1 - place);
+        same("count(1) behind " + text, forest.count(1), text.length());
+        same("count(0) behind " + text, forest.count(0), 0);
+    }
+
+    /** The fault's place is where the mark ! stands. */
+    void fault(int kind, String marked) {
+        int place = marked.indexOf('!');
+        faultAt(place, kind, marked.substring(0, place) + marked.substring(place + 1));
+    }
+
+    /** All that can be asked of a forest but its line; scopes are taken away and given back. */
+    static String state(SignatureForest forest) {
+        StringBuilder all = new StringBuilder();
+        all.append(forest.count(0)).append(" made, in the line ").append(forest.count(1));
+        for (int s = 0; s < forest.count(0); s++) {
+            int scope = forest.scope(s, -1);
+            forest.scope(s, scope);
+            all.append("; ").append(forest.kind(s)).append(" in ").append(scope);
+            for (int what = 0; what < 3; what++) {
+                all.append(' ').append(text(forest, s, what));
+            }
+            all.append(' ').append(forest.parameters(s));
+            for (int what = 0; what < 6; what++) {
+                all.append(' ').append(forest.measure(s, what));
+            }
+        }
+        return all.toString();
     }
 }

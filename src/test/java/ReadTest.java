@@ -16,41 +16,24 @@ public final class ReadTest {
         CHECK.end();
     }
 
-    private static void right(int kind, String text) {
-        SignatureForest forest = new SignatureForest();
-        CHECK.same("read(" + kind + ") of " + text, Check.read(forest, kind, text), 0);
-        CHECK.same("count(1) behind " + text, forest.count(1), 0);
-        CHECK.hasText(forest, 0, Check.WRITTEN, text);
-    }
-
-    /** The fault's place is where the mark ! stands. */
-    private static void fault(int kind, String marked) {
-        int place = marked.indexOf('!');
-        String text = marked.substring(0, place) + marked.substring(place + 1);
-        SignatureForest forest = new SignatureForest();
-        CHECK.same("read(" + kind + ") of " + marked, Check.read(forest, kind, text), -1 - place);
-        CHECK.same("count(1) behind " + marked, forest.count(1), text.length());
-        CHECK.same("count(0) behind " + marked, forest.count(0), 0);
-    }
-
     private static void rightOnes() {
         String[] fields = {"LA;", "TT;", "[I", "[[LA;", "[TT;", "La/b/C;", "La/b/C.D.E;",
             "La<*>;", "La<*>.b<TT;>.c;", "La/b<**+LA;-[I[JTX;Lc<*>;>;", "LT;", "TL;", "L(;", "L^)V;",
             "T*;", "L+-;", "L];", "L,;", "TB;", "La<+TT;>;", "La<-La<+La<-La<+La<*>;>;>;>;>;",
             "[B", "[C", "[D", "[F", "[J", "[S", "[Z"};
         for (String text : fields) {
-            right(2, text);
+            CHECK.right(2, text);
         }
         String[] classes = {"LA;", "LA;LB;LC;", "<A:>LA;", "<A::LB;>LA;", "<A:LB;:LC;:TD;>LA;LB;",
             "<A:B:C:>La;", "<A:[I>La;", "<A:[IB:>La;", "<A:TA;TB:TTB;>La;", "<A::[[TA;B:>La;",
             "<(:)::LX;>La;", "<A:LA;L:>LA;"};
         for (String text : classes) {
-            right(0, text);
+            CHECK.right(0, text);
         }
         String[] methods = {"()V", "()I", "(BCDFIJSZ)Z", "(LA;TT;[I[[TT;)TT;", "()V^LA;^TT;",
             "<T:>(TT;)TT;^TT;", "<T::LI;>()[[I", "()LA<*>;^La.b<*>;", "<(:>()V"};
         for (String text : methods) {
-            right(1, text);
+            CHECK.right(1, text);
         }
     }
 
@@ -61,7 +44,7 @@ public final class ReadTest {
             "TT!", "T!;", "TT!/a;", "TT!<*>;", "TT!.a;", "[!", "[!V", "[!;", "[I!I", "[[!*", "La!:b;",
             "La![;", "Ta![;", "La!>;", "La<La;!;>;", "La<La<*>!>;", "L!<*>;", "L!.a;", "La<!:>;"};
         for (String text : marked) {
-            fault(2, text);
+            CHECK.fault(2, text);
         }
     }
 
@@ -69,7 +52,7 @@ public final class ReadTest {
         String[] marked = {"!", "!TT;", "![I", "!I", "!()V", "LA;!TT;", "LA;!I", "LA;!^LB;", "LA;!<A:>",
             "LA;L!", "<A:>!", "<A:>!TT;", "<A:>!<B:>LA;", "<A:>![LA;", "<A:>!()V", "LA!"};
         for (String text : marked) {
-            fault(0, text);
+            CHECK.fault(0, text);
         }
     }
 
@@ -79,7 +62,7 @@ public final class ReadTest {
             "()[!V", "(!*)V", "(!^)V", "<A:>!LA;", "<A:>!", "<A:>!V", "(I!;)V", "(LA;!;)V", "()TT;!TT;",
             "(!()V)V", "(!<A:>)V"};
         for (String text : marked) {
-            fault(1, text);
+            CHECK.fault(1, text);
         }
     }
 
@@ -90,8 +73,8 @@ public final class ReadTest {
             "<A:LB;:!>", "<A:LB;!;", "<A:A!", "<A:AA!", "<A:A!>", "<A:B:B!:>", "<T:LA;T!:>", "<A:TB;![", "<A:LB;!",
             "<A:[I!"};
         for (String text : marked) {
-            fault(0, text);
-            fault(1, text);
+            CHECK.fault(0, text);
+            CHECK.fault(1, text);
         }
     }
 
