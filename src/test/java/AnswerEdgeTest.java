@@ -142,6 +142,7 @@ public final class AnswerEdgeTest {
         clash(0, "()V", "(I)V");
         clash(0, "(I)V", "(II)V");
         clash(0, "(II)V", "(J)V");
+        clash(0, "(I)V", "(J)V");
         clash(0, "(I)V", "([I)V");
         clash(0, "(LA;)V", "(LB;)V");
         clash(0, "(LA;LB;)V", "(LB;LA;)V");

@@ -17,6 +17,7 @@ public final class FillEdgeTest {
         wouldReadOtherwise();
         wouldNotReadOtherwise();
         exactlyOneHundredAndTwenty();
+        notCutToOneHundredAndTwenty();
         moreAcrossManyFills();
         theTwentyFourth();
         refusalsChangeNothing();
@@ -220,6 +221,17 @@ public final class FillEdgeTest {
         filled(1, "<T:LX;:LY;:LZ;>(TT;TT;TT;III)V", 0, field, "(" + field.repeat(3) + "III)V");
         filled(1, "<T:>(TT;TT;TT;)V", 0, field, "(" + field.repeat(3) + ")V");
         refused("<T:>(TT;TT;TT;)V^LX;", 0, field);
+    }
+
+    /** The first 120 of its 123 characters would be a signature by themselves. */
+    private static void notCutToOneHundredAndTwenty() {
+        CHECK.sentence("REFUSED: WRITTEN would have more than 120 characters, however it goes on");
+        String field = "L" + "a".repeat(33) + ";";
+        String filled = "La<" + field + ">;";
+        filled(0, "<T:>La<TT;>;La<TT;>;La<TT;>;", 0, field, filled.repeat(3));
+        SignatureForest forest = Check.forest("0 <T:>La<TT;>;La<TT;>;La<TT;>;LB;", "2 " + field);
+        CHECK.refused("fill to 123", forest.fill(0, 0, 1));
+        CHECK.same("count(0) behind it", forest.count(0), 2);
     }
 
     private static void moreAcrossManyFills() {

@@ -28,6 +28,7 @@ public final class TextEdgeTest {
         lengths();
         lengthsRefused();
         theLongestTexts();
+        theLongestType();
         CHECK.end();
     }
 
@@ -309,5 +310,24 @@ public final class TextEdgeTest {
         forest.scope(3, 6);
         CHECK.hasText(forest, 3, Check.ERASED, "(" + ("[".repeat(96) + "I").repeat(12) + ")V");
         CHECK.hasText(forest, 4, Check.SHOWN, "(" + "boolean,".repeat(36) + "boolean)void");
+    }
+
+    /** A bound of 108 brackets that goes on in the scope with 110 more. */
+    private static void theLongestType() {
+        CHECK.sentence("an ARRAY as an opening square bracket and its TYPE erased, "
+                + "in 120 characters and a scope of 120");
+        SignatureForest forest = Check.forest("0 <A:" + "[".repeat(24) + "TB;B:C:D:>La;",
+                "1 <B:" + "[".repeat(22) + "TC;C:D:E:>()TB;", "2 " + "[".repeat(37) + "TC;",
+                "2 " + "[".repeat(37) + "TD;", "2 " + "[".repeat(37) + "TE;", "2 " + "[".repeat(12) + "TA;");
+        CHECK.same("the scope without B", forest.fill(0, 1, 2), 6);
+        CHECK.same("the scope without C", forest.fill(6, 1, 3), 7);
+        CHECK.same("the scope without D", forest.fill(7, 1, 5), 8);
+        CHECK.hasText(forest, 8, Check.WRITTEN, "<A:" + "[".repeat(110) + "TA;>La;");
+        CHECK.same("the method without C", forest.fill(1, 1, 3), 9);
+        CHECK.same("the method without D", forest.fill(9, 1, 4), 10);
+        CHECK.same("the method without E", forest.fill(10, 1, 5), 11);
+        CHECK.hasText(forest, 11, Check.WRITTEN, "<B:" + "[".repeat(108) + "TA;>()TB;");
+        forest.scope(11, 8);
+        CHECK.hasText(forest, 11, Check.ERASED, "()" + "[".repeat(218) + OBJECT);
     }
 }
